@@ -749,7 +749,6 @@ public final class RuleHouse {
         void clear() {
             predicates = 0;
             rules = 0;
-            strata = 0;
             facts.clear();
         }
 

@@ -34,8 +34,12 @@ public final class AskTest {
         Checks.same("no answers", Checks.answers(house, "n(X),X>10?"), "0: ");
         Checks.same("VARIABLES without answers", house.total(0), 1);
         Checks.same("not of a TOTAL, so _ may be", Checks.answers(house, "e(_,_),n(_),e(_,2)?"), "1: ");
-        Checks.same("eight VARIABLES", Checks.answers(house, "A=1,B=2,C=3,D=4,e(b,E),F=E?"),
+        Checks.same("six LITERALS", Checks.answers(house, "A=1,B=2,C=3,D=4,e(b,E),F=E?"),
                 "1: 1,2,3,4,b,b");
+        Checks.same("eight VARIABLES",
+                Checks.answers(house, "e(A,B),e(C,D),e(E,F),G is A+C,H is F-G,A<C?"),
+                "8: 1,-5,2,b,1,-5,3,-8 1,-5,2,b,a,1,3,-2 1,-5,2,b,a1,2,3,-1 1,-5,2,b,ab,2,3,-1 "
+                + "1,a,2,b,1,-5,3,-8 1,a,2,b,a,1,3,-2 1,a,2,b,a1,2,3,-1 1,a,2,b,ab,2,3,-1");
         Checks.same("wrapped", Checks.answers(house, "X is 999999999*9?"), "1: 410065399");
     }
 

@@ -76,5 +76,14 @@ public final class FactTest {
         Checks.same("solve", Checks.solve(house), "200");
         Checks.same("last in order", Checks.tuple(house, 0, 198, 0), "a");
         Checks.same("the gap", Checks.tuple(house, 0, 6, 0) + Checks.tuple(house, 0, 7, 0), "68");
+        for (int i = 0; i < 199; i += 3) {
+            Checks.same("goes " + i, Checks.fact(house, "p(" + i + ").", 0), true);
+        }
+        for (int i = 0; i < 198; i++) {
+            boolean gone = i % 3 == 0 || i == 7;
+            Checks.same("is there " + i, Checks.fact(house, "p(" + i + ").", 1), gone);
+        }
+        Checks.same("200 again", house.total(4), 200);
+        Checks.same("p(198) had no place", Checks.fact(house, "p(198).", 1), "state");
     }
 }

@@ -11,6 +11,7 @@ public final class FaultTest {
         tellsUnbound();
         tellsHanging();
         tellsFirst();
+        forgetsOldTexts();
         Checks.finish();
     }
 
@@ -62,6 +63,9 @@ public final class FaultTest {
         program("p(A1b):-q(A1b).", "1");
         program("p(1) : -q(1).", "1@5");
         program("p(1) :", "1@5");
+        program("p(1):-", "1@6");
+        program("p(1):-1<", "1@8");
+        program("p(1):-1<=", "1@9");
         program("p(1):-1! =2.", "1@7");
         program("p(1):-1!=2.", "1");
         program("p(1):-1< =2.", "1@9");
@@ -184,6 +188,7 @@ public final class FaultTest {
         program("p(X):-X=1.", "1");
         program("p(X):-1=X.", "1");
         program("p(X):-X=X.", "3@2");
+        program("p(1):-!r(1,1,Z),X=1.", "3@13");
         program("p(X):-X=Y,Y=X.", "3@2");
         program("p(X):-X=Y,Y=Z,Z=a.", "1");
         program("p(X):-Z=Y,Y is W+1,q(W),X is Z*Y.", "1");
@@ -220,6 +225,16 @@ public final class FaultTest {
         program("a(X):-b(X),!a(X).c(X):-b(Y).", "3@19");
         program("a(X):-b(X),!a(X).b(1,2).", "2@17");
         program("p(X):-q(X). p(count(X)):-s(X). s(X):-t(X),!p(X).", "4@14");
+    }
+
+    private static void forgetsOldTexts() {
+        RuleHouse house = new RuleHouse();
+        Checks.same("a longer text", Checks.program(house, "p(1):-q(12)."), "1");
+        Checks.same("its - is gone", Checks.program(house, "p(1):"), "1@4");
+        Checks.same("its . is gone", Checks.program(house, "p(1):-q(12)"), "1@11");
+        Checks.same("hanging", Checks.program(house, "a(X):-b(X). b(X):-a(X)."), "2");
+        Checks.same("another one", Checks.program(house, ""), "0");
+        Checks.same("hanging is forgotten", Checks.program(house, "b(X):-c(X),!c(1)."), "1");
     }
 
     private static void tellsFirst() {

@@ -79,6 +79,9 @@ public final class ProgramTest {
         RuleHouse house = new RuleHouse();
         Checks.same("16", Checks.program(house, text.toString()), "0");
         Checks.same("16 predicates", house.total(2), 16);
+        Checks.same("16 TUPLES", Checks.solve(house), "16");
+        Checks.same("of the last one", Checks.tuples(house, 15), "1:0");
+        Checks.same("asked", Checks.answers(house, "pp(X),pa(Y),!pp(2)?"), "1: 1,1");
         Checks.same("16 again", Checks.program(house, text + "pa(2)."), "0");
         Checks.same("a 17th HEAD", Checks.program(house, text + "q(1)."), "1@96");
         Checks.same("a 17th HEAD without (", Checks.program(house, text + " q ."), "1@97");

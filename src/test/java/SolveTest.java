@@ -37,6 +37,11 @@ public final class SolveTest {
         model("p(X):-q(X),r(X),s(X). q(1).q(2).q(3). r(2).r(3).r(4). s(3).s(4).s(2).", "2:1 3:1");
         model("p(X):-q(X,a,Y),r(Y,2). q(1,a,5). q(2,b,5). q(3,a,6). r(5,2). r(6,3).", "1:1");
         model("p(X):-p(X).", "");
+        model("t(X,W):-t(X,Y),t(Y,Z),t(Z,W). t(1,2). t(2,3). t(3,4). t(4,5). t(5,6). t(6,7). t(7,8). "
+                + "t(8,9). t(9,10).", "1,2:0 1,4:1 1,6:2 1,8:2 1,10:2 2,3:0 2,5:1 2,7:2 2,9:2 3,4:0 3,6:1 "
+                + "3,8:2 3,10:2 4,5:0 4,7:1 4,9:2 5,6:0 5,8:1 5,10:2 6,7:0 6,9:1 7,8:0 7,10:1 8,9:0 9,10:0");
+        model("p(X,Y):-p(Y,X). p(X,Z):-p(X,Y),q(Y,Z). q(X,Y):-p(Y,X). p(1,2). q(2,3).",
+                "1,1:2 1,2:0 1,3:1 2,1:1 2,2:3 2,3:4 3,1:2 3,2:3 3,3:4");
     }
 
     private static void looksAtAbsence() {
@@ -76,7 +81,8 @@ public final class SolveTest {
                 "a,-2:1 b,-63:1 c,3:1 d,3:1");
         model("p(a,Y):-Y is -7/2. p(b,Y):-Y is -7%4. p(c,Y):-Y is 7/ -2. p(d,Y):-Y is 7% -4.",
                 "a,-3:1 b,-3:1 c,-3:1 d,3:1");
-        model("p(X):-X is 1/0. p(X):-X is 1%0. p(X):-X is 0/5.", "0:1");
+        model("p(X):-X is 1/0. p(X):-X is 0/0. p(X):-X is 1%0. p(X):-q(Y),X is 3%Y. q(0).", "");
+        model("p(X):-X is 0/5. p(X):-X is 1*0. p(X):-q(Y),X is Y-0. q(7).", "0:1 7:1");
         model("p(Z):-X is 999999999*3,Y is X-999999999,Z is Y*7.", "1115098098:1");
         model("p(M,N,R):-A is 2*536870912,M is A*2,N is M/ -1,R is M% -1.",
                 "-2147483648,-2147483648,0:1");
@@ -93,6 +99,9 @@ public final class SolveTest {
         model("c(X,least(Y)):-q(X,Y). q(1,2). q(1,-3). q(1,x). q(2,y). q(2,x).", "1,-3:1 2,x:1");
         model("c(X,most(Y)):-q(X,Y). q(1,2). q(1,-3). q(2,y). q(2,9). q(2,x).", "1,2:1 2,y:1");
         model("c(count(X)):-q(X,Y). q(1,2). q(1,3). q(2,3).", "3:1");
+        model("c(count(X)):-q(X,Y). q(0,2). q(0,3). q(0,0).", "3:1");
+        model("c(sum(X)):-q(X,Y),q(Z,0). q(0,2). q(0,0). q(5,0).", "10:1");
+        model("c(least(X),Y):-q(X,Y). q(0,2). q(-1,2). q(0,0). q(5,0).", "-1,2:1 0,0:1");
         model("c(count(X)):-q(X,Y),r(Z). q(1,2). q(1,3). r(1). r(2).", "4:1");
         model("c(count(X)):-q(X),1=2. q(1).", "");
         model("c(count(X)):-q(X),X>5. q(1). q(6).", "1:1");

@@ -45,6 +45,13 @@ public final class TypeTest {
     }
 
     private static void holdsSixHundred() {
+        RuleHouse full = new RuleHouse();
+        Checks.type(full, "p(1).".repeat(120));
+        Checks.same("as many CLAUSES as can be", Checks.program(full, ""), "0");
+        Checks.same("600 TOKENS", Checks.type(full, "(".repeat(600)), true);
+        Checks.same("600 TOKENS are read", Checks.program(full, ""), "1@0");
+        Checks.type(full, "p(1)." + "!".repeat(595));
+        Checks.same("600 TOKENS are read on", Checks.program(full, ""), "1@5");
         RuleHouse house = new RuleHouse();
         for (int i = 0; i < 74; i++) {
             Checks.same("blanks " + i, house.type(0x2020202020202020L, 8), true);
