@@ -29,6 +29,10 @@ public final class FactTest {
         Checks.same("goes once", Checks.fact(house, "p(1).", 0), "false");
         Checks.same("solve", Checks.solve(house), "4");
         Checks.same("what is left", Checks.tuples(house, 0), "a:0");
+        Checks.same("the latest one goes", Checks.fact(house, "q(1).", 0), "true");
+        Checks.same("and is gone", Checks.fact(house, "q(1).", 0), "false");
+        Checks.same("and comes again", Checks.fact(house, "q(1).", 1), "true");
+        Checks.same("and is there", Checks.fact(house, "q(1).", 1), "false");
         Checks.same("predicates stay", house.total(2), 2);
         Checks.same("FACTS by predicates", house.predicate(0, 3) + " " + house.predicate(1, 3), "1 2");
     }

@@ -147,6 +147,17 @@ public final class FaultTest {
         program("p(1):-1=1,1=1,1=1,1=1,1=1,1=1,!q(1).", "1@30");
         program("p(1):-q(1),q(2),q(3).", "1");
         program("p(1):-q(1),q(2),q(3), q(4).", "1@22");
+        program("p(1):-q(1),q(2),q(3),q(4). ~", "1@21");
+        program("p(1):-1=1,1=1,1=1,1=1,1=1,1=1,q(1). ~", "1@30");
+        program("p(1,2,3,4,q(1). ~", "1@10");
+        program("p(1):-q q(1). ~", "1@8");
+        program("p(1):-1=1 q(1). ~", "1@10");
+        program("p(1) q(1). ~", "1@5");
+        program("p q(1). ~", "1@2");
+        program("p(X):-X is q(1). ~", "1@12");
+        program("p(X):-X is 1+count q(1). ~", "1@13");
+        program("p(count q(1). ~", "1@8");
+        program("p(count(q(1)). ~", "1@8");
         program("p(1):-q(1),q(2),q(3),!q(4),!q(5),!q(6).", "1");
         program("p(1):-q(1),q(2),q(3),q=4.", "1");
         program("p(1):-q(A,B,C,D),r(E,F,G,H).", "1");
