@@ -44,6 +44,13 @@ final class Checks {
         return good;
     }
 
+    /** For texts that must find room on the tape: one that does not would be another text. */
+    private static void enter(RuleHouse house, String text) {
+        if (!type(house, text)) {
+            same("typed " + text, false, true);
+        }
+    }
+
     static long packed(String letters) {
         long word = 0;
         for (int i = 0; i < letters.length(); i++) {
@@ -62,7 +69,7 @@ final class Checks {
 
     /** The number of RULES, or the FAULT as kind@place behind an IllegalArgumentException. */
     static String program(RuleHouse house, String text) {
-        type(house, text);
+        enter(house, text);
         try {
             return String.valueOf(house.program());
         } catch (IllegalArgumentException e) {
@@ -71,7 +78,7 @@ final class Checks {
     }
 
     static String fact(RuleHouse house, String text, int how) {
-        type(house, text);
+        enter(house, text);
         try {
             return String.valueOf(house.fact(how));
         } catch (IllegalArgumentException e) {
@@ -90,7 +97,7 @@ final class Checks {
     }
 
     static String ask(RuleHouse house, String text) {
-        type(house, text);
+        enter(house, text);
         try {
             return String.valueOf(house.ask());
         } catch (IllegalArgumentException e) {
@@ -106,6 +113,11 @@ final class Checks {
         if (told.equals("state") || told.indexOf('@') >= 0) {
             return told;
         }
+        return told + ": " + toldAnswers(house);
+    }
+
+    /** The answers to the latest QUESTION that was answered. */
+    static String toldAnswers(RuleHouse house) {
         StringBuilder all = new StringBuilder();
         for (int i = 0; i < house.total(1); i++) {
             all.append(i == 0 ? "" : " ");
@@ -113,7 +125,7 @@ final class Checks {
                 all.append(k == 0 ? "" : ",").append(answer(house, i, k));
             }
         }
-        return told + ": " + all;
+        return all.toString();
     }
 
     static String answer(RuleHouse house, int i, int k) {
@@ -170,6 +182,19 @@ final class Checks {
             name.append((char) house.predicate(p, 100 + i));
         }
         return name.toString();
+    }
+
+    /** All that the face tells but the FAULT: what a refused call must leave as it is. */
+    static String everything(RuleHouse house) {
+        StringBuilder all = new StringBuilder(totals(house));
+        for (int p = 0; p < house.total(2); p++) {
+            all.append(" | ").append(nameOf(house, p));
+            for (int what = 0; what <= 4; what++) {
+                all.append(" ").append(house.predicate(p, what));
+            }
+            all.append(" ").append(tuples(house, p));
+        }
+        return all.append(" | ").append(toldAnswers(house)).toString();
     }
 
     static String totals(RuleHouse house) {
