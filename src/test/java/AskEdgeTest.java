@@ -104,19 +104,23 @@ public final class AskEdgeTest {
 
     /** "or there are more than 200 answers (what was answered before stays ..". */
     private static void refusesMoreThanTwoHundred() {
-        RuleHouse house = Checks.solved(UP + "67.a(1).a(2).a(3).b(1).");
+        String pairs = "n(X),n(Y),A is X*15,B is A+Y,";
+        RuleHouse house = Checks.solved(UP + "15.a(1).a(2).a(3).");
         Checks.ask(house, "a(X)?");
         Checks.same("a FAULT", Checks.program(house, "~"), "1@0");
         String before = Checks.everything(house);
-        Checks.same("201", Checks.ask(house, "a(X),n(Y)?"), "state");
+        Checks.same("201", Checks.ask(house, pairs + "B<=200?"), "state");
         Checks.same("no FAULT", Checks.faultOf(house), "0@0");
         Edges.stays("201", house, before);
-        Checks.same("198", Checks.ask(house, "a(X),n(Y),Y>0?"), "198");
-        Checks.same("201 of three", Checks.ask(house, "a(X),n(Y),b(Z)?"), "state");
+        house = Checks.solved(UP + "15.a(1).a(2).a(3).");
+        Checks.same("200", Checks.ask(house, pairs + "B<200?"), "200");
+        Checks.same("201 of others", Checks.ask(house, "n(Q),n(R),S is Q*15,T is S+R,T>23?"), "state");
         Checks.same("far more", Checks.ask(house, "n(X),n(Y),n(Z)?"), "state");
-        Checks.same("198 stay", house.total(0) + " " + house.total(1), "2 198");
-        Checks.same("the last one stays", Checks.answer(house, 197, 0) + " " + Checks.answer(house, 197, 1), "3 66");
-        Checks.same("another one", Checks.answers(house, "b(X)?"), "1: 1");
+        Checks.same("200 stay", house.total(0) + " " + house.total(1), "4 200");
+        Checks.same("the first one stays", Checks.answer(house, 0, 3), "0");
+        Checks.same("the last one stays", Checks.answer(house, 199, 3), "199");
+        Checks.same("200 of others", Checks.ask(house, "n(Q),n(R),S is Q*15,T is S+R,T>24?"), "200");
+        Checks.same("another one", Checks.answers(house, "a(X)?"), "3: 1 2 3");
     }
 
     /** "500 QUESTIONS have been answered .. it does not count among the 500". Beyond 512 calls, as it must be. */

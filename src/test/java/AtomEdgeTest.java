@@ -30,6 +30,14 @@ public final class AtomEdgeTest {
         Edges.programRefused(1, "p(1):-q(a^(1)).");
         Edges.programRefused(1, "p(1):-q(-^_).");
         Edges.programRefused(1, "p(1):--^q(1).");
+        String[] signs = {"(", ",", ".", "?", "!", ":-", "=", "!=", "<", "<=", ">", ">=", "+", "*", "/", "%"};
+        for (String sign : signs) {
+            Edges.programRefused(1, "p(^" + sign + "(X)):-q(X).");
+            Edges.programRefused(1, "p(1):-q(^" + sign + "(X)).");
+            Edges.programRefused(1, "p(1):-1=^" + sign + ".");
+            Edges.factRefused(1, "p(^" + sign + "1).");
+            Edges.questionRefused(1, "p(^" + sign + "X)?");
+        }
         Edges.factTaken("p(-1).");
         Edges.factRefused(1, "p(-^a).");
         Edges.questionRefused(1, "p(-^X)?");

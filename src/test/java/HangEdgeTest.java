@@ -6,6 +6,7 @@ public final class HangEdgeTest {
         hangsOnAndOn();
         tellsTheFirst();
         hangsOnlyByBodies();
+        forgetsEarlierTexts();
         hasTheLeastStrata();
         raisesByNotAndTotalOnly();
         endsWithSixteenStrata();
@@ -90,11 +91,25 @@ public final class HangEdgeTest {
         // A QUESTION hangs on nothing, and no predicate on it.
         Edges.questionTaken("1: ", "p(1),!p(3)?");
         Edges.questionTaken("1: ", "r(1),!r(3)?");
-        // What an earlier text said is forgotten.
-        RuleHouse house = Checks.house("r(X):-p(X).");
-        Checks.same("another PROGRAM", Checks.program(house, "p(X):-q(X),!r(X)."), "1");
-        Checks.same("FAULT", Checks.program(house, "r(X):-p(X).p(X):-q(X),!r(X)."), "4@22");
-        Checks.same("again", Checks.program(house, "p(X):-q(X),!r(X)."), "1");
+        // Relations and is neither, whichever place the HEAD's predicate has.
+        for (int k = 0; k <= 14; k++) {
+            StringBuilder others = new StringBuilder();
+            for (int i = 0; i < k; i++) {
+                others.append((char) ('a' + i)).append("(1).");
+            }
+            Edges.programTaken(3, others + "y(1):-!z(1).z(X):-X=1,X<2,Y is X+1,Z is Y-1,W is Z*2,V is W/1."
+                    + "z(X):-X is 5%3,X!=1,X>=1.");
+        }
+    }
+
+    private static void forgetsEarlierTexts() {
+        RuleHouse house = new RuleHouse();
+        Checks.same("hanging", Checks.program(house, "p(X):-q(X),!r(X).r(X):-p(X)."), "4@11");
+        Checks.same("not so", Checks.program(house, "p(X):-q(X),!r(X)."), "1");
+        Checks.same("two strata", house.total(7), 2);
+        Checks.same("another one", Checks.program(house, ""), "0");
+        Checks.same("FACTS alone", Checks.program(house, "p(1).q(1).r(1)."), "0");
+        Checks.same("one stratum", house.total(7) + " " + house.predicate(0, 1), "1 0");
     }
 
     private static String strata(String text) {

@@ -74,6 +74,9 @@ public final class LookEdgeTest {
                 + "p(X):-a(X),b(X),c(X)." + "p(X):-a(X).".repeat(29));
         Checks.same("16 predicates, 30 RULES", Checks.totals(house), "0 0 16 30 15 1 16 1 1");
         Checks.same("RULES of the last one", house.predicate(15, 2), 30);
+        Checks.same("TUPLE of the last one", Checks.tuple(house, 15, 0, 0) + Checks.round(house, 15, 0), "11");
+        Checks.same("one more", Checks.tuple(house, 16, 0, 0) + Checks.round(house, 16, 0), "nonenone");
+        Checks.same("one more predicate", house.predicate(16, 4), RuleHouse.NONE);
         Checks.ask(house, "A=1,B=A,C=A,D=A,a(E),a(F)?");
         Checks.same("six VARIABLES", house.total(0) + " " + house.total(1), "6 1");
         Checks.ask(house, "a(A),B=A,C=A,D=A,E=A,F=A?");

@@ -8,6 +8,7 @@ public final class TapeEdgeTest {
         takesThirtyTwoToHundredTwentySix();
         looksAtEachByte();
         holdsSixHundred();
+        isCutAtSixHundred();
         refusesWholeWords();
         isEmptyBehindEachReading();
         Checks.finish();
@@ -109,6 +110,32 @@ public final class TapeEdgeTest {
         Checks.same("are an empty PROGRAM", Checks.program(house, ""), "0");
         Checks.same("600 blanks", Checks.type(house, " ".repeat(600)), true);
         Checks.same("are no QUESTION", Checks.ask(house, ""), "1@600");
+    }
+
+    /** With 600 characters each kind of TOKEN may be cut by the tape's end. */
+    private static void isCutAtSixHundred() {
+        String[] ends = {"p", "p(X", "p(123456789", "p(1", "p(abcdef", "p(", "p(1)", "p(1):-", "p(1):-1<", "p(1):-1<=",
+            "p(1):-1>", "p(1):-!", "p(1):-1!="};
+        for (String end : ends) {
+            RuleHouse house = new RuleHouse();
+            // Something longer was there before.
+            Checks.program(house, "9".repeat(600));
+            Checks.same(end, Checks.program(house, " ".repeat(600 - end.length()) + end), "1@600");
+        }
+        Checks.same(":", Checks.program(new RuleHouse(), " ".repeat(595) + "p(1):"), "1@599");
+        // As many TOKENS as characters.
+        RuleHouse house = new RuleHouse();
+        Checks.same("600 TOKENS", Checks.program(house, "p(1).".repeat(120)), "0");
+        Checks.same("600 that end too early", Checks.program(house, "p(1).".repeat(119) + "p(1,2"), "1@600");
+        Checks.same("600 that end with a FAULT", Checks.program(house, "p(1).".repeat(119) + "p(1)?"), "1@599");
+        // What stood behind a shorter text before is not read.
+        Checks.same("a long one", Checks.program(house, "p(123456789123456789)."), "1@2");
+        Checks.same("a number at the end", Checks.program(house, "p(123456789"), "1@11");
+        Checks.same("a long one", Checks.program(house, "p(1):-p(abcdefgh)."), "1@8");
+        Checks.same("a NAME at the end", Checks.program(house, "p(1):-p(abcdef"), "1@14");
+        Checks.same("a sign", Checks.program(house, "p(1):-1<=2."), "1");
+        Checks.same("half of it at the end", Checks.program(house, "p(1):-1<"), "1@8");
+        Checks.same("the other half", Checks.program(house, "p(1):"), "1@4");
     }
 
     /** A word that is refused leaves out its good bytes, too. */

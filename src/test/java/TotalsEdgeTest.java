@@ -10,6 +10,7 @@ public final class TotalsEdgeTest {
         wrapsSums();
         takesTheFirstAndTheLast();
         givesOneTupleToEachGroup();
+        looksAtSixLiterals();
         countsBeyondTwoHundred();
         Checks.finish();
     }
@@ -116,6 +117,17 @@ public final class TotalsEdgeTest {
                 "1,1:1 2,1:1 3,1:1 3,5:1");
         // A VALUE of 0 beside the TOTAL, ahead of it and behind.
         Edges.model("c(X,count(Y),0):-q(X,Y).q(0,0).q(0,1).q(1,0).", "0,2,0:1 1,1,0:1");
+    }
+
+    /** With six LITERALS no way is left out, whatever the VARIABLE's VALUE is. */
+    private static void looksAtSixLiterals() {
+        String facts = "q(0,1).q(0,2).q(0,0).q(1,1).";
+        String more = ",1=1,2=2,3=3,4=4,5=5.";
+        Edges.model("c(count(X)):-q(X,Y)" + more + facts, "4:1");
+        Edges.model("c(sum(Y)):-q(X,Y)" + more + facts, "4:1");
+        Edges.model("c(X,count(Y)):-q(X,Y)" + more + facts, "0,3:1 1,1:1");
+        Edges.model("c(count(X)):-q(X,Y),q(Z,Y),!q(X,7),X<=Z,W is X+Z,W<2." + facts, "4:1");
+        Edges.programRefused(1, "c(count(X)):-q(X,Y),1=1,2=2,3=3,4=4,5=5,^6=6.");
     }
 
     /** Ways are not TUPLES: there may be more than 200 of them. */

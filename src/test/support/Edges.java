@@ -3,8 +3,14 @@
  * place where the FAULT is due, and is not typed. Whatever is refused must leave all as it was.
  */
 final class Edges {
+    /** What may stand behind a FAULT, and must not be met: each would be another one. */
+    private static final String[] BEHIND = {" ~", " .~", " ?~", " ),~", ",1=1.~", "(1).~", " 1+1.~"};
+
     /** p has 1 ARGUMENT, q 2, t 4, r 1. */
     private static final String STANDARD = "p(1).p(a).q(1,2).q(a,b).t(1,2,3,4).r(X):-p(X).";
+
+    /** What totals of settled() tell. */
+    private static final String TOTALS = "2 2 4 1 5 1 7 1 1";
 
     private Edges() {
     }
@@ -30,6 +36,12 @@ final class Edges {
         String before = Checks.everything(house);
         Checks.same("program " + marked, Checks.program(house, text(marked)), due(kind, marked));
         stays(marked, house, before);
+        house = settled();
+        for (String behind : behind(kind, marked)) {
+            Checks.same("program " + marked + behind, Checks.program(house, text(marked) + behind),
+                    dueBehind(kind, marked));
+        }
+        Checks.same("totals stay: " + marked, Checks.totals(house), TOTALS);
     }
 
     /** Of the predicates of settled(), and not there as yet. */
@@ -54,6 +66,12 @@ final class Edges {
                     due(kind, marked));
         }
         stays(marked, house, before);
+        house = settled();
+        for (String behind : behind(kind, marked)) {
+            Checks.same("fact " + marked + behind, Checks.fact(house, text(marked) + behind, 1),
+                    dueBehind(kind, marked));
+        }
+        Checks.same("totals stay: " + marked, Checks.totals(house), TOTALS);
     }
 
     /** With the answers as Checks.answers tells them. */
@@ -69,6 +87,12 @@ final class Edges {
         String before = Checks.everything(house);
         Checks.same("ask " + marked, Checks.ask(house, text(marked)), due(kind, marked));
         stays(marked, house, before);
+        house = settled();
+        for (String behind : behind(kind, marked)) {
+            Checks.same("ask " + marked + behind, Checks.ask(house, text(marked) + behind),
+                    dueBehind(kind, marked));
+        }
+        Checks.same("totals stay: " + marked, Checks.totals(house), TOTALS);
     }
 
     /** The TUPLES of predicate 0, each with its round. */
@@ -99,6 +123,22 @@ final class Edges {
 
     static String text(String marked) {
         return marked.replace("^", "");
+    }
+
+    /**
+     * What is put behind a refused text: behind a FAULT 1 anything (if the text does not end too
+     * early), behind another one something that is no TOKEN.
+     */
+    private static String[] behind(int kind, String marked) {
+        if (kind != 1) {
+            return new String[] {"~"};
+        }
+        return marked.endsWith("^") ? new String[0] : BEHIND;
+    }
+
+    /** A text is read on to the first FAULT 1; that goes ahead of the others. */
+    private static String dueBehind(int kind, String marked) {
+        return kind == 1 ? due(1, marked) : "1@" + text(marked).length();
     }
 
     private static String due(int kind, String marked) {
