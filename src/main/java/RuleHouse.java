@@ -1065,7 +1065,8 @@ public final class RuleHouse {
             int many = 0;
             boolean more = true;
             for (int k = 0; k < MAX_ARGUMENTS && more; k++) {
-                if (!(role == HEAD && isTotal(kind()) ? readTotal(k) : readTerm(k, role))) {
+                boolean total = role == HEAD && isTotal(kind());
+                if (total && !openTotal(k) || !readTerm(k, role) || total && !expect(')')) {
                     return false;
                 }
                 many++;
@@ -1088,7 +1089,8 @@ public final class RuleHouse {
             }
         }
 
-        boolean readTotal(int k) {
+        /** Reads up to the VARIABLE of a TOTAL. */
+        boolean openTotal(int k) {
             if (rule.totalKind != NONE) {
                 return refuse(place());
             }
@@ -1096,13 +1098,7 @@ public final class RuleHouse {
             rule.totalAt = k;
             rule.totalPlace = place();
             at++;
-            if (!expect('(')) {
-                return false;
-            }
-            if (kind() != VARIABLE) {
-                return refuse(place());
-            }
-            return readTerm(k, HEAD) && expect(')');
+            return accept('(') && kind() == VARIABLE || refuse(place());
         }
 
         boolean readTerm(int k, int role) {

@@ -107,6 +107,8 @@ public final class HangEdgeTest {
         Checks.same("hanging", Checks.program(house, "p(X):-q(X),!r(X).r(X):-p(X)."), "4@11");
         Checks.same("not so", Checks.program(house, "p(X):-q(X),!r(X)."), "1");
         Checks.same("two strata", house.total(7), 2);
+        Checks.same("a second RULE", Checks.program(house, "p(X):-q(X).r(X):-q(X),!r(X)."), "4@22");
+        Checks.same("one RULE", Checks.program(house, "p(X):-q(X),!r(X)."), "1");
         Checks.same("another one", Checks.program(house, ""), "0");
         Checks.same("FACTS alone", Checks.program(house, "p(1).q(1).r(1)."), "0");
         Checks.same("one stratum", house.total(7) + " " + house.predicate(0, 1), "1 0");

@@ -9,6 +9,7 @@ public final class RoundEdgeTest {
         endsWithTheFirstEmptyRound();
         looksForAbsence();
         asksTheSameTwice();
+        forgetsEarlierTexts();
         tellsNoRoundOfNoTuple();
         Checks.finish();
     }
@@ -116,6 +117,27 @@ public final class RoundEdgeTest {
         Edges.model("p(X,Y):-q(X,Y),q(Y,X).q(1,2).q(2,1).q(3,4).", "1,2:1 2,1:1");
         Edges.model("p(X):-q(X),q(X),q(X).q(1).", "1:1");
         Edges.model("p(X,Y,Z):-q(X),q(Y),q(Z),X<Y,Y<Z.q(1).q(2).q(3).q(4).", "1,2,3:1 1,2,4:1 1,3,4:1 2,3,4:1");
+    }
+
+    /** RULES of the same place in earlier texts, and earlier QUESTIONS, leave nothing. */
+    private static void forgetsEarlierTexts() {
+        String[] bodies = {"q(X),r(X)", "q(X),r(Y)", "q(X),!r(X)", "q(X),X is 1+1", "X=2,q(Y)", "q(_),X=3", "q(X),r(_)"};
+        String[] due = {"2", "1 2", "1", "2", "2", "3", "1 2"};
+        RuleHouse house = new RuleHouse();
+        for (int i = 0; i < bodies.length * 2; i++) {
+            // Two texts behind one another have different places to be kept in.
+            int at = i / 2;
+            Checks.program(house, "p(X):-" + bodies[at] + ".q(1).q(2).r(2).r(3).");
+            Checks.solve(house);
+            Checks.same(bodies[at], Checks.tuples(house, 0), due[at].replace(" ", ":1 ") + ":1");
+        }
+        house = Checks.solved("q(1).q(2).r(2).r(3).");
+        Checks.same("one VARIABLE", Checks.answers(house, "q(X),r(X)?"), "1: 2");
+        Checks.same("two", Checks.answers(house, "q(X),r(Y)?"), "4: 1,2 1,3 2,2 2,3");
+        Checks.same("absent", Checks.answers(house, "q(X),!r(X)?"), "1: 1");
+        Checks.same("one again", Checks.answers(house, "r(X),!q(X)?"), "1: 3");
+        Checks.same("none", Checks.answers(house, "q(2),r(2)?"), "1: ");
+        Checks.same("two again", Checks.answers(house, "q(X),r(Y),X!=Y?"), "3: 1,2 1,3 2,3");
     }
 
     /** "NoSuchElementException: there is none such". */
