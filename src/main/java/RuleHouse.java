@@ -1323,7 +1323,7 @@ public final class RuleHouse {
         }
 
         /** Goes through all VALUES with which the LITERALS from this step on hold. */
-        void walk(int depth) {
+        private void walk(int depth) {
             if (full || depth > rule.literals || depth >= rule.settled && isFound()) {
                 return;
             }
