@@ -8,6 +8,7 @@ public final class AtomEdgeTest {
         hasOneToFourArguments();
         hasOneToFourInAHead();
         takesAnythingInAtomsOnly();
+        takesAnythingAtEachPlace();
         refusesAnythingBesideATotal();
         readsRelations();
         readsReckonings();
@@ -118,6 +119,28 @@ public final class AtomEdgeTest {
         Edges.factRefused(1, "p(^_).");
         Edges.questionRefused(1, "^_=1?");
         Edges.questionRefused(1, "p(X),X<^_?");
+    }
+
+    /** "an ATOM is a TUPLE (_ is anything); ! ATOM: there is no such TUPLE (with anything for _)". */
+    private static void takesAnythingAtEachPlace() {
+        String[][] rows = {
+            {"_,2,3,4", "_,2,3,5"}, {"1,_,3,4", "2,_,3,4"}, {"1,2,_,4", "1,2,_,3"}, {"1,2,3,_", "1,2,4,_"},
+            {"_,_,3,4", "_,_,4,4"}, {"1,_,_,4", "1,_,_,1"}, {"1,2,_,_", "2,2,_,_"}, {"_,2,3,_", "_,3,3,_"},
+            {"1,_,_,_", "2,_,_,_"}, {"_,2,_,_", "_,1,_,_"}, {"_,_,3,_", "_,_,a,_"}, {"_,_,_,4", "_,_,_,0"},
+        };
+        for (String[] row : rows) {
+            Edges.questionTaken("1: ", "t(" + row[0] + ")?");
+            Edges.questionTaken("0: ", "!t(" + row[0] + ")?");
+            Edges.questionTaken("0: ", "t(" + row[1] + ")?");
+            Edges.questionTaken("1: ", "!t(" + row[1] + ")?");
+            Edges.model("s(1):-t(" + row[0] + ").s(2):-!t(" + row[0] + ").t(1,2,3,4).", "1:1");
+            Edges.model("s(1):-t(" + row[1] + ").s(2):-!t(" + row[1] + ").t(1,2,3,4).", "2:1");
+            // With VARIABLES that have VALUES already.
+            String known = row[0].replace("1", "X").replace("2", "Y").replace("3", "Z").replace("4", "W");
+            String ahead = "q(X,Y),Z is 4-X,W is Z+1,";
+            Edges.questionTaken("1: 1,2,3,4", ahead + "t(" + known + ")?");
+            Edges.questionTaken("0: ", ahead + "!t(" + known + ")?");
+        }
     }
 
     /** "_ (not in an ATOM without ! of a RULE with a TOTAL)". */

@@ -8,6 +8,7 @@ public final class BodyEdgeTest {
         hasThreeAtomsWithoutNot();
         hasEightVariablesInARule();
         hasEightVariablesInAQuestion();
+        usesTheEighthVariable();
         endsAQuestion();
         Checks.finish();
     }
@@ -110,6 +111,36 @@ public final class BodyEdgeTest {
         Edges.questionRefused(1, seven + ",H=1,!p(^I)?");
         Edges.questionRefused(1, seven + ",H=1,p(^I)?");
         Edges.questionTaken("2: 1,2,3,4,1,2,1,9 1,2,3,4,a,b,1,9", seven + ",H=9,p(E)?");
+    }
+
+    /** The eighth one is as good as the others, wherever it stands. */
+    private static void usesTheEighthVariable() {
+        String facts = "u(1,2,3,4).v(5,6,7,8).v(5,6,7,9).w(8).x(9,8).";
+        String eight = "u(A,B,C,D),v(E,F,G,H)";
+        String eighth8 = "1: 1,2,3,4,5,6,7,8";
+        String eighth9 = "1: 1,2,3,4,5,6,7,9";
+        String both = "2: 1,2,3,4,5,6,7,8 1,2,3,4,5,6,7,9";
+        String[][] rows = {
+            {"", both}, {",H<9", eighth8}, {",8<H", eighth9}, {",H=8", eighth8}, {",9=H", eighth9},
+            {",H!=8", eighth9}, {",H<=8", eighth8}, {",H>=9", eighth9}, {",9>H", eighth8},
+            {",E is H-3", eighth8}, {",E is 14-H", eighth9}, {",H is D+5", eighth9}, {",H is D*2", eighth8},
+            {",w(H)", eighth8}, {",!w(H)", eighth9}, {",x(9,H)", eighth8}, {",!x(_,H)", eighth9},
+            {",x(H,8)", eighth9}, {",!x(H,_)", eighth8}, {",H=H", both}, {",H<H", "0: "},
+        };
+        for (String[] row : rows) {
+            RuleHouse house = Checks.solved(facts);
+            Checks.same("first " + row[0], Checks.answers(house, eight + row[0] + "?"), row[1]);
+            Checks.same("second " + row[0], Checks.answers(house, eight + row[0] + "?"), row[1]);
+            String rule = "s(A,D,E,count(C)):-" + eight + row[0] + ".";
+            String ways = row[1].equals("0: ") ? "" : "1,4,5," + row[1].charAt(0) + ":1";
+            Edges.model(rule + facts, ways);
+            Edges.model("s(A,B):-" + eight + row[0] + "." + facts, ways.isEmpty() ? "" : "1,2:1");
+        }
+        // A QUESTION's answers go by the eighth one, if all else is the same.
+        RuleHouse house = Checks.solved("t(1,1,1,1).q(b).q(-1).q(a).q(3).");
+        String due = "4: 1,1,1,1,1,1,1,-1 1,1,1,1,1,1,1,3 1,1,1,1,1,1,1,a 1,1,1,1,1,1,1,b";
+        Checks.same("in order", Checks.answers(house, "t(A,B,C,D),t(E,F,G,_),q(H)?"), due);
+        Checks.same("in order again", Checks.answers(house, "t(A,B,C,D),t(E,F,G,_),q(H)?"), due);
     }
 
     /** "A QUESTION: BODY ?". */

@@ -9,6 +9,7 @@ public final class RoundEdgeTest {
         endsWithTheFirstEmptyRound();
         looksForAbsence();
         asksTheSameTwice();
+        leavesVariablesOut();
         forgetsEarlierTexts();
         tellsNoRoundOfNoTuple();
         Checks.finish();
@@ -66,6 +67,13 @@ public final class RoundEdgeTest {
         Edges.model("c(count(X)):-q(X).c(sum(X)):-q(X).c(Y):-c(X),Y is X-1,Y>0.q(2).q(3).",
                 "1:2 2:1 3:3 4:2 5:1");
         Edges.model("c(count(X)):-X=1.c(Y):-c(X),Y is X+1,Y<4.", "1:1 2:2 3:3");
+        // What a RULE makes of a TOTAL in a later round, whatever number it is.
+        for (int number = -1; number <= 3; number++) {
+            String due = number == 1 ? "1:1" : number < 1 ? number + ":2 1:1" : "1:1 " + number + ":2";
+            Edges.model("c(count(X)):-q(X).c(" + number + "):-c(1).q(1).", due);
+            Edges.model("c(" + number + "):-c(1).c(count(X)):-q(X).q(1).", due);
+        }
+        Edges.model("c(X,sum(Y)):-q(X,Y).c(Y,0):-c(X,Y).q(1,5).q(0,2).", "0,0:3 0,2:1 1,5:1 2,0:2 5,0:2");
     }
 
     /** "A TUPLE's round is the first in which it comes". */
@@ -117,6 +125,32 @@ public final class RoundEdgeTest {
         Edges.model("p(X,Y):-q(X,Y),q(Y,X).q(1,2).q(2,1).q(3,4).", "1,2:1 2,1:1");
         Edges.model("p(X):-q(X),q(X),q(X).q(1).", "1:1");
         Edges.model("p(X,Y,Z):-q(X),q(Y),q(Z),X<Y,Y<Z.q(1).q(2).q(3).q(4).", "1,2,3:1 1,2,4:1 1,3,4:1 2,3,4:1");
+    }
+
+    /** "of RULES without a TOTAL the HEAD, for all VALUES of their VARIABLES with which all LITERALS hold". */
+    private static void leavesVariablesOut() {
+        // The VARIABLE that links both ATOMS is not in the HEAD; the first ATOM alone settles nothing.
+        String links = "q(1,1,1,5).q(1,1,1,6).q(1,1,2,6).r(5,a).r(6,b).r(7,c).";
+        Edges.model("p(A,B,C,D):-q(A,B,C,E),r(E,D)." + links, "1,1,1,a:1 1,1,1,b:1 1,1,2,b:1");
+        Edges.model("p(D,A,B,C):-q(A,B,C,E),r(E,D)." + links, "a,1,1,1:1 b,1,1,1:1 b,1,1,2:1");
+        Edges.model("p(A,D,B):-q(A,B,_,E),r(E,D)." + links, "1,a,1:1 1,b,1:1");
+        Edges.model("p(A,D):-q(A,_,_,E),r(E,D)." + links, "1,a:1 1,b:1");
+        Edges.model("p(D):-q(_,_,_,E),r(E,D)." + links, "a:1 b:1");
+        Edges.model("p(A):-q(A,_,_,E),r(E,c)." + links, "");
+        Edges.model("p(C):-q(_,_,C,E),r(E,a),!r(E,b)." + links, "1:1");
+        // The first way does not hold, another one does.
+        for (int good = 1; good <= 3; good++) {
+            Edges.model("p(A,B,C,7):-q(A,B,C,E),E=" + good + ".q(1,2,3,1).q(1,2,3,2).q(1,2,3,3).", "1,2,3,7:1");
+            Edges.model("p(7):-q(E),!r(E).q(1).q(2).q(3)." + others("r", good), "7:1");
+            Edges.model("p(A,B,C,D):-q(A,B,C,E),D is E*10,E=" + good + ".q(1,2,3,1).q(1,2,3,2).q(1,2,3,3).",
+                    "1,2,3," + good * 10 + ":1");
+        }
+    }
+
+    /** FACTS of the numbers 1 to 3 but for one. */
+    private static String others(String name, int one) {
+        String all = name + "(1)." + name + "(2)." + name + "(3).";
+        return all.replace(name + "(" + one + ").", "");
     }
 
     /** RULES of the same place in earlier texts, and earlier QUESTIONS, leave nothing. */

@@ -7,7 +7,8 @@ import java.util.Random;
 /** Writes texts for the tape: mostly good ones, some at the document's limits, some spoilt. */
 final class Writer {
     private static final String[] NAMES = {"p", "q", "r", "s", "t", "edge", "n1", "abcdef"};
-    private static final String[] VARIABLES = {"X", "Y", "Z", "W", "V", "Ab1z"};
+    private static final String[] FEW = {"X", "Y", "Z", "W", "V", "Ab1z"};
+    private static final String[] MANY = {"X", "Y", "Z", "W", "V", "Ab1z", "U", "Xy", "T"};
     private static final String[] VALUES = {"0", "1", "2", "3", "4", "5", "-1", "- 2", "a", "b", "c",
         "ab", "a1", "a1b", "abc", "z9", "999999999", "-999999999", "007"};
     private static final String[] RELATIONS = {"=", "!=", "<", "<=", ">", ">="};
@@ -22,17 +23,21 @@ final class Writer {
     private final Map<String, Integer> arity = new LinkedHashMap<>();
     /** The NAMES that texts use now: those above, or those of the PROGRAM that there is. */
     private final List<String> names = new ArrayList<>();
+    private String[] variables = FEW;
 
     Writer(Random random) {
         this.random = random;
         forget();
     }
 
-    /** New numbers of ARGUMENTS for all NAMES. */
+    /** New numbers of ARGUMENTS for all NAMES; now and then they are wide, with many VARIABLES. */
     void forget() {
         arity.clear();
+        boolean wide = rare(4);
+        variables = wide ? MANY : FEW;
         for (String name : NAMES) {
-            arity.put(name, 1 + random.nextInt(random.nextInt(4) == 0 ? 4 : 2));
+            int narrow = 1 + random.nextInt(rare(4) ? 4 : 2);
+            arity.put(name, wide ? 4 - random.nextInt(2) : narrow);
         }
     }
 
@@ -213,7 +218,7 @@ final class Writer {
             } else if (absent) {
                 text.append(variable(bound));
             } else {
-                String variable = pick(VARIABLES);
+                String variable = pick(variables);
                 bound.add(variable);
                 text.append(variable);
             }
@@ -230,12 +235,12 @@ final class Writer {
             case 3:
                 return "" + term(bound) + blank() + pick(RELATIONS) + term(bound);
             case 4:
-                String equal = rare(3) ? onlyVariable(bound) : pick(VARIABLES);
+                String equal = rare(3) ? onlyVariable(bound) : pick(variables);
                 String side = term(bound);
                 bound.add(equal);
                 return rare(2) ? equal + "=" + side : side + " = " + equal;
             default:
-                String result = rare(4) ? onlyVariable(bound) : pick(VARIABLES);
+                String result = rare(4) ? onlyVariable(bound) : pick(variables);
                 String text = result + " is " + term(bound) + pick(OPERATIONS) + term(bound);
                 bound.add(result);
                 return text;
@@ -248,13 +253,13 @@ final class Writer {
 
     private String variable(List<String> bound) {
         if (bound.isEmpty()) {
-            return rare(4) ? pick(VARIABLES) : value();
+            return rare(4) ? pick(variables) : value();
         }
-        return rare(60) ? pick(VARIABLES) : bound.get(random.nextInt(bound.size()));
+        return rare(60) ? pick(variables) : bound.get(random.nextInt(bound.size()));
     }
 
     private String onlyVariable(List<String> bound) {
-        return bound.isEmpty() ? pick(VARIABLES) : variable(bound);
+        return bound.isEmpty() ? pick(variables) : variable(bound);
     }
 
     private String value() {
